@@ -58,8 +58,8 @@ public final class EchoMarket {
         market = new Market();
         draft = new Market();
         saved = new Market();
-        description = new Description(input, draft);
-        script = new Script(input, market);
+        description = new Description();
+        script = new Script();
         history = new History();
         output = new StringBuilder();
         hasSaved = false;
@@ -84,7 +84,7 @@ public final class EchoMarket {
     }
 
     public int readText() throws IllegalArgumentException {
-        boolean valid = description.read();
+        boolean valid = description.read(input, draft);
         input.length = 0;
         demandArgument(valid);
         market.copyFrom(draft);
@@ -93,11 +93,11 @@ public final class EchoMarket {
     }
 
     public int runScript() throws IllegalArgumentException {
-        boolean valid = script.read();
+        boolean valid = script.read(input, market);
         input.length = 0;
         demandArgument(valid);
         history.remember(market);
-        return script.execute();
+        return script.execute(market);
     }
 
     public int errorCode() {
@@ -791,24 +791,17 @@ public final class EchoMarket {
 
     /** Reads a description into a draft, so that an error leaves the market as it is. */
     private static final class Description {
-        private final Text text;
-        private final Market draft;
         private final Change change = new Change();
 
-        Description(Text text, Market draft) {
-            this.text = text;
-            this.draft = draft;
-        }
-
         /** Whether the text has no error. */
-        boolean read() {
+        boolean read(Text text, Market draft) {
             draft.clear();
             text.open();
             text.failIf(text.verb() != Verb.MARKET, WRONG_TOKEN);
             text.skip();
             text.takeSign(';');
             for (int i = 0; i < MOST_BYTES && text.hasMore(); i++) {
-                readStatement();
+                readStatement(text, draft);
                 text.takeSign(';');
                 if (!text.hasFailed()) {
                     change.applyTo(draft);
@@ -817,7 +810,7 @@ public final class EchoMarket {
             return !text.hasFailed();
         }
 
-        private void readStatement() {
+        private void readStatement(Text text, Market draft) {
             change.verb = text.verb();
             text.failIf(!change.verb.inDescriptions, WRONG_TOKEN);
             text.failIf(change.verb == Verb.VALLEY && draft.valleyTotal >= MOST_VALLEYS, TOO_MANY);
@@ -825,13 +818,13 @@ public final class EchoMarket {
             text.skip();
             switch (change.verb) {
                 case VALLEY:
-                    readValley();
+                    readValley(text, draft);
                     break;
                 case CUSTOMER:
-                    readCustomer();
+                    readCustomer(text, draft);
                     break;
                 case SHOUT:
-                    readShout();
+                    readShout(text, draft);
                     break;
                 case FOG:
                     change.valley = text.takeValley(draft);
@@ -845,31 +838,31 @@ public final class EchoMarket {
                     change.first = text.takeNumber(0, MOST_DEPTH);
                     break;
                 case PASS:
-                    readPass();
+                    readPass(text, draft);
                     break;
                 case FAKE:
-                    readFake();
+                    readFake(text, draft);
                     break;
                 default:
                     break;
             }
         }
 
-        private void readValley() {
+        private void readValley(Text text, Market draft) {
             change.name = text.takeNewName(draft.valleyNamed(text.word()));
             change.first = text.takeNumber(1, MOST_WIDTH);
             change.second = text.takeNumber(1, MOST_WALLS);
             change.third = text.takeNumber(1, MOST_PRICE);
         }
 
-        private void readCustomer() {
+        private void readCustomer(Text text, Market draft) {
             change.name = text.takeNewName(draft.customerNamed(text.word()));
             change.first = text.takeNumber(1, MOST_PATIENCE);
             change.second = text.takeNumber(0, MOST_MONEY);
         }
 
         /** Stops before the semicolon, because a refused sale is an error of the semicolon. */
-        private void readShout() {
+        private void readShout(Text text, Market draft) {
             change.customer = text.takeCustomer(draft);
             change.valley = text.takeValley(draft);
             change.first = text.takeNumber(1, MOST_LOUDNESS);
@@ -880,14 +873,14 @@ public final class EchoMarket {
             }
         }
 
-        private void readPass() {
+        private void readPass(Text text, Market draft) {
             change.first = text.number();
             text.expectNumber(1, MOST_SECONDS);
             text.failIf(draft.faultOfPassing(change.first) != Fault.NOTHING, IMPOSSIBLE);
             text.skip();
         }
 
-        private void readFake() {
+        private void readFake(Text text, Market draft) {
             change.first = text.number();
             text.expectNumber(0, draft.shoutTotal - 1);
             text.failIf(draft.faultOfOpen(change.first) != Fault.NOTHING, IMPOSSIBLE);
@@ -897,8 +890,6 @@ public final class EchoMarket {
 
     /** Reads a script into a plan, in which repeats are written out, and executes the plan. */
     private static final class Script {
-        private final Text text;
-        private final Market market;
         private final Change[] commands = new Change[MOST_COMMANDS];
         private final int[] plan = new int[MOST_EXECUTED];
         private final int[] bodyStarts = new int[MOST_NESTING];
@@ -907,32 +898,30 @@ public final class EchoMarket {
         private int planned;
         private int nesting;
 
-        Script(Text text, Market market) {
-            this.text = text;
-            this.market = market;
+        Script() {
             for (int i = 0; i < MOST_COMMANDS; i++) {
                 commands[i] = new Change();
             }
         }
 
         /** Whether the text has no error. */
-        boolean read() {
+        boolean read(Text text, Market market) {
             commandTotal = 0;
             planned = 0;
             nesting = 0;
             text.open();
             for (int i = 0; i < MOST_BYTES && text.hasMore(); i++) {
                 if (nesting > 0 && text.isSign(')')) {
-                    endRepeat();
+                    endRepeat(text);
                 } else {
-                    readCommand();
+                    readCommand(text, market);
                 }
             }
             text.failIf(nesting > 0, WRONG_TOKEN);
             return !text.hasFailed();
         }
 
-        private void readCommand() {
+        private void readCommand(Text text, Market market) {
             Verb verb = text.verb();
             text.failIf(!verb.inScripts, WRONG_TOKEN);
             text.failIf(verb == Verb.REPEAT && nesting >= MOST_NESTING, NESTED_TOO_DEEP);
@@ -944,14 +933,15 @@ public final class EchoMarket {
             int command = commandTotal;
             commandTotal++;
             if (verb == Verb.REPEAT) {
-                beginRepeat();
+                beginRepeat(text);
             } else {
-                readChange(verb, commands[command]);
+                commands[command].verb = verb;
+                readChange(text, market, commands[command]);
                 appendToPlan(command);
             }
         }
 
-        private void beginRepeat() {
+        private void beginRepeat(Text text) {
             repeats[nesting] = text.takeNumber(1, MOST_REPEATS);
             bodyStarts[nesting] = planned;
             nesting++;
@@ -959,7 +949,7 @@ public final class EchoMarket {
         }
 
         /** The body is planned once already, so one copy less than the number of repeats is missing. */
-        private void endRepeat() {
+        private void endRepeat(Text text) {
             text.skip();
             text.takeSign(';');
             nesting--;
@@ -971,8 +961,8 @@ public final class EchoMarket {
             }
         }
 
-        private void readChange(Verb verb, Change change) {
-            change.verb = verb;
+        private void readChange(Text text, Market market, Change change) {
+            Verb verb = change.verb;
             if (verb == Verb.SHOUT) {
                 change.customer = text.takeCustomer(market);
             }
@@ -995,7 +985,7 @@ public final class EchoMarket {
         }
 
         /** Executes the script that has been read and answers how many commands were executed. */
-        int execute() {
+        int execute(Market market) {
             for (int i = 0; i < planned; i++) {
                 Change command = commands[plan[i]];
                 if (command.faultIn(market) != Fault.NOTHING) {
