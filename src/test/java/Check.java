@@ -3,6 +3,7 @@ import java.nio.charset.StandardCharsets;
 /** Compares answers with those that are due, prints the others, and ends a test. */
 final class Check {
     private static int wrong = 0;
+    private static String sentence = "";
 
     private Check() {
     }
@@ -10,6 +11,16 @@ final class Check {
     /** A call that may throw. */
     interface Call {
         long ask();
+    }
+
+    /** The sentence of a section of the document's Terms, or of the paragraph behind them, that is tested next. */
+    static void terms(int section, String words) {
+        sentence = "Terms, section " + section + ": " + words;
+    }
+
+    /** The sentence of a promise that is tested next; SentencesTest looks for the words in the document. */
+    static void promise(int number, String words) {
+        sentence = "Promise " + number + ": " + words;
     }
 
     static void due(String call, long got, long want) {
@@ -49,20 +60,24 @@ final class Check {
     }
 
     private static void throwing(String name, Call call, Class<? extends RuntimeException> want) {
-        String got;
-        try {
-            got = "" + call.ask();
-        } catch (RuntimeException e) {
-            got = e.getClass().getName();
-        }
+        String got = answer(call);
         if (!got.equals(want.getName())) {
             fail(name + " answered " + got + ", due is " + want.getName());
         }
     }
 
+    /** The number that a call answers, or the name of what it throws. */
+    static String answer(Call call) {
+        try {
+            return "" + call.ask();
+        } catch (RuntimeException e) {
+            return e.getClass().getName();
+        }
+    }
+
     static void fail(String what) {
         wrong++;
-        System.out.println(what);
+        System.out.println(sentence.isEmpty() ? what : what + "\n    " + sentence);
     }
 
     /** Prints the verdict and ends with 1 if an answer was wrong. */

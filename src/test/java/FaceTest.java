@@ -84,6 +84,7 @@ public final class FaceTest {
     }
 
     private static void members() throws ReflectiveOperationException {
+        Check.terms(8, "`NONE = -1`: Result of queries that have no valley, customer, shout or number to return.");
         Check.due("NONE", EchoMarket.NONE, -1);
         Check.due("modifiers of NONE", EchoMarket.class.getField("NONE").getModifiers(),
                 Modifier.PUBLIC | Modifier.STATIC | Modifier.FINAL);
@@ -143,6 +144,8 @@ public final class FaceTest {
     }
 
     private static void newObject() throws ReflectiveOperationException {
+        Check.promise(1, "Creates a market without valleys and customers, with time 0, an empty input buffer, empty "
+                + "output and no saved state.");
         EchoMarket x = new EchoMarket();
         for (String method : METHODS) {
             String[] words = method.split(" ");
