@@ -165,6 +165,8 @@ public final class BoundsOfScriptsTest {
         run("well 00020;", "1@5");
         run("repeat 0001 (well 1;);", "1");
         run("repeat 00001 (well 1;);", "1@7");
+        run("repeat 1 000" + (int) '(' + " well 1;);", "1@9");
+        run("repeat 1 (well 1;000" + (int) ')' + ";", "1@17");
         run("repeat" + "9".repeat(594), "1@6");
         Check.terms(6, "words (maximal runs of the letters a to z, at most 8 letters)");
         EchoMarket x = Check.described("market;valley abcdefgh 1 1 1;");

@@ -10,6 +10,7 @@ public final class BoundsOfSecondsTest {
         argumentBeforeState();
         returnsOfACall();
         newSecond();
+        oneEchoFromEachWall();
         returnsBeforeLosses();
         ascendingReturns();
         severalLosses();
@@ -117,6 +118,16 @@ public final class BoundsOfSecondsTest {
         Check.due("nothing in the second of the sale", x.returns(0), 0);
         x.pass(1);
         Check.due("one return in the next", x.returns(0), 1);
+    }
+
+    private static void oneEchoFromEachWall() {
+        Check.terms(4, "A return is an echo from a wall.");
+        EchoMarket x = Check.described("market;valley v 3 4 1;customer c 90 99;shout c v 6 4;");
+        Check.due("wall 1", x.pass(3) * 10 + x.earned(), 11);
+        Check.due("wall 2", x.pass(3) * 10 + x.earned(), 12);
+        Check.due("wall 3, from which it can't be heard", x.pass(3) * 10 + x.earned(), 12);
+        Check.due("wall 4", x.pass(3) * 10 + x.echoesLost(0), 12);
+        Check.due("no more walls", x.pass(240), 0);
     }
 
     private static void returnsBeforeLosses() {

@@ -912,6 +912,14 @@ public final class PlainMarket {
 
     // ---- help
 
+    String valleyName(int valley) {
+        return valleyAt(valley).name;
+    }
+
+    String customerName(int customer) {
+        return customerAt(customer).name;
+    }
+
     private Valley valleyAt(int valley) {
         index(valley >= 0 && valley < now.valleys.size());
         return now.valleys.get(valley);

@@ -1,12 +1,13 @@
 import java.lang.reflect.InvocationTargetException;
 import java.lang.reflect.Method;
 import java.util.Arrays;
-import java.util.Random;
 
-/** Random runs of calls, the same for EchoMarket and PlainMarket; a fixed seed makes every run the same again. */
+/** Runs of calls by the fall of dice, the same for EchoMarket and PlainMarket; each run is the same every time. */
 public final class RandomRunsTest {
-    private static final int RUNS = 160;
-    private static final int CHANGES = 200;
+    private static final int RUNS = 2000;
+    private static final int MOST_CALLS = 512;
+    private static final int MANY_QUERIES = 12;
+    private static final int FEW_QUERIES = 5;
     private static final String[] NAMES = {"a", "ab", "abc", "b", "zug", "alm", "fog", "market", "shout", "zzzzzzzz"};
     private static final int[] ODD = {Integer.MIN_VALUE, -1000, -1, 0, 1, 2, 3, 4, 5, 8, 9, 10, 20, 21, 30, 60, 61, 99,
             100, 240, 241, 600, 9999, 10000, Integer.MAX_VALUE};
@@ -20,40 +21,51 @@ public final class RandomRunsTest {
             "heldFor"};
     private static final String[] OF_SHOUT = {"shoutCustomer", "shoutValley", "shoutState", "returns", "receipt",
             "nextReturn", "patienceEnds", "finalState"};
-    private static final Random DICE = new Random(20261119);
 
     private static EchoMarket market;
     private static PlainMarket plain;
+    private static int calls;
     private static StringBuilder story;
     private static boolean failed;
+    private static long fallen = 20261119;
 
     public static void main(String[] args) {
         for (int run = 0; run < RUNS && !failed; run++) {
             market = new EchoMarket();
             plain = new PlainMarket();
             story = new StringBuilder();
-            for (int i = 0; i < CHANGES && !failed; i++) {
-                change(run % 4);
-                compareAll();
-            }
+            calls = 0;
+            run(run % 4);
         }
         Check.end();
     }
 
+    /** The mood 0 begins with an empty market; in 1 much time passes, in 2 many shouts are sold. */
+    private static void run(int mood) {
+        if (mood != 0) {
+            feed(beginning());
+            both("readText");
+        }
+        while (calls < MOST_CALLS && !failed) {
+            change(mood);
+            for (int i = dice(mood == 1 || mood == 2 ? FEW_QUERIES : MANY_QUERIES); i > 0; i--) {
+                query();
+            }
+        }
+    }
+
     /** In the moods 1 and 2 nothing is taken back, so that the last second and the last sale are reached. */
     private static void change(int mood) {
-        int kind = DICE.nextInt(100);
-        if ((mood == 1 || mood == 2) && kind >= 79 && kind < 90) {
-            kind = mood == 1 ? 50 : 30;
+        int kind = dice(100);
+        if ((mood == 1 || mood == 2) && (kind >= 79 && kind < 90 || dice(2) == 0)) {
+            kind = mood == 1 ? 50 : dice(3) == 0 ? 60 : 30;
         }
         if (kind < 10) {
             feed(name());
             both("addValley", range(1, 20), range(1, 4), range(1, 12));
-            both("truncate", 0);
         } else if (kind < 18) {
             feed(name());
             both("addCustomer", range(1, 80), range(0, 300));
-            both("truncate", 0);
         } else if (kind < 42) {
             both("shout", customer(), valley(), range(1, 20), range(1, 4));
         } else if (kind < 60) {
@@ -69,7 +81,9 @@ public final class RandomRunsTest {
         } else if (kind < 79) {
             both("setWell", range(0, 3));
         } else if (kind < 84) {
-            both("undo");
+            do {
+                both("undo");
+            } while (dice(3) != 0);
         } else if (kind < 86) {
             both("saveState");
         } else if (kind < 87) {
@@ -81,18 +95,32 @@ public final class RandomRunsTest {
             feed(spoiled(script(0)));
             both("runScript");
         } else if (kind < 99) {
-            for (int i = DICE.nextInt(32); i > 0; i--) {
-                both("feed", DICE.nextInt(), DICE.nextInt(), DICE.nextInt(), DICE.nextInt(), DICE.nextInt());
+            for (int i = dice(32); i > 0; i--) {
+                both("feed", fall(), fall(), fall(), fall(), fall());
             }
         } else {
             both("truncate", range(0, 600));
         }
     }
 
-    // ---- random arguments and texts
+    // ---- dice, arguments and texts
+
+    /** 32 bits that look as if they had fallen by chance (Knuth's linear congruential generator). */
+    private static int fall() {
+        fallen = fallen * 6364136223846793005L + 1442695040888963407L;
+        return (int) (fallen >>> 32);
+    }
+
+    private static int dice(int sides) {
+        return Math.floorMod(fall(), sides);
+    }
+
+    private static String oneOf(String[] texts) {
+        return texts[dice(texts.length)];
+    }
 
     private static int range(int least, int most) {
-        return DICE.nextInt(12) == 0 ? ODD[DICE.nextInt(ODD.length)] : least + DICE.nextInt(most - least + 1);
+        return dice(12) == 0 ? ODD[dice(ODD.length)] : least + dice(most - least + 1);
     }
 
     private static int valley() {
@@ -104,8 +132,8 @@ public final class RandomRunsTest {
     }
 
     private static int shout() {
-        for (int s = plain.shoutCount() - 1; s >= 0 && DICE.nextInt(5) != 0; s--) {
-            if (plain.shoutState(s) == 0 && DICE.nextBoolean()) {
+        for (int s = plain.shoutCount() - 1; s >= 0 && dice(5) != 0; s--) {
+            if (plain.shoutState(s) == 0 && dice(2) == 0) {
                 return s;
             }
         }
@@ -113,12 +141,23 @@ public final class RandomRunsTest {
     }
 
     private static String name() {
-        return NAMES[DICE.nextInt(NAMES.length)];
+        return oneOf(NAMES);
     }
 
     private static String number(int least, int most) {
         int number = range(least, most);
         return " " + (number < 0 ? 0 : number);
+    }
+
+    private static String beginning() {
+        StringBuilder text = new StringBuilder("market;");
+        for (int i = dice(NAMES.length - 2); i >= 0; i--) {
+            text.append("valley ").append(NAMES[i]).append(few(1, 20)).append(few(1, 4)).append(few(1, 12)).append(';');
+        }
+        for (int i = dice(NAMES.length - 2); i >= 0; i--) {
+            text.append("customer ").append(NAMES[i]).append(few(1, 80)).append(few(0, 999)).append(';');
+        }
+        return text.toString();
     }
 
     private static String description() {
@@ -131,15 +170,15 @@ public final class RandomRunsTest {
         for (String customer : customers) {
             text.append("customer ").append(customer).append(few(5, 99)).append(few(50, 200)).append(';');
         }
-        String many = DICE.nextInt(3) != 0 ? "" : DICE.nextBoolean() ? "valley " : "customer ";
+        String many = dice(3) != 0 ? "" : dice(2) == 0 ? "valley " : "customer ";
         for (int i = 0; i < NAMES.length && !many.isEmpty(); i++) {
             text.append(many).append(NAMES[i]).append(many.equals("valley ") ? " 1 1 1;" : " 1 1;");
         }
-        int count = DICE.nextInt(12);
+        int count = dice(12);
         for (int i = 0; i < count; i++) {
-            String valley = valleys[DICE.nextInt(2)];
-            String customer = customers[DICE.nextInt(2)];
-            switch (DICE.nextInt(8)) {
+            String valley = valleys[dice(2)];
+            String customer = customers[dice(2)];
+            switch (dice(8)) {
                 case 0, 1, 2 -> text.append("shout ").append(customer).append(' ').append(valley).append(few(1, 20))
                         .append(few(1, 2));
                 case 3 -> text.append("fog ").append(valley).append(few(0, 9));
@@ -154,14 +193,14 @@ public final class RandomRunsTest {
     }
 
     private static String few(int least, int most) {
-        return DICE.nextInt(60) == 0 ? number(least, most) : " " + (least + DICE.nextInt(most - least + 1));
+        return dice(60) == 0 ? number(least, most) : " " + (least + dice(most - least + 1));
     }
 
     private static String script(int repeats) {
         StringBuilder text = new StringBuilder();
-        int count = DICE.nextInt(repeats == 0 ? 8 : 4);
+        int count = dice(repeats == 0 ? 8 : 4);
         for (int i = 0; i < count; i++) {
-            switch (DICE.nextInt(9)) {
+            switch (dice(9)) {
                 case 0, 1 -> text.append("shout ").append(nameOf(false)).append(' ').append(nameOf(true))
                         .append(few(1, 20)).append(few(1, 4));
                 case 2 -> text.append("fog ").append(nameOf(true)).append(few(0, 9));
@@ -175,47 +214,31 @@ public final class RandomRunsTest {
             }
             text.append(';');
         }
-        if (repeats == 0 && DICE.nextInt(10) == 0) {
-            text.append("well 1;".repeat(26 + DICE.nextInt(6)));
+        if (repeats == 0 && dice(10) == 0) {
+            text.append("well 1;".repeat(26 + dice(6)));
         }
         return text.toString();
     }
 
     private static String nameOf(boolean valley) {
         int count = valley ? plain.valleyCount() : plain.customerCount();
-        if (count == 0 || DICE.nextInt(40) == 0) {
+        if (count == 0 || dice(40) == 0) {
             return name();
         }
-        int chosen = DICE.nextInt(count);
-        StringBuilder name = new StringBuilder();
-        if (valley) {
-            for (int i = 0; plain.valleyByte(chosen, i) >= 0; i++) {
-                name.append((char) plain.valleyByte(chosen, i));
-            }
-            return name.toString();
-        }
-        for (String candidate : NAMES) {
-            feed(candidate);
-            boolean found = plain.findCustomer() == chosen;
-            both("truncate", 0);
-            if (found) {
-                return candidate;
-            }
-        }
-        return name();
+        return valley ? plain.valleyName(dice(count)) : plain.customerName(dice(count));
     }
 
     private static String spoiled(String text) {
         StringBuilder spoiled = new StringBuilder(text);
-        while (DICE.nextInt(4) == 0) {
-            int at = DICE.nextInt(spoiled.length() + 1);
-            int kind = DICE.nextInt(4);
+        while (dice(4) == 0) {
+            int at = dice(spoiled.length() + 1);
+            int kind = dice(4);
             if (kind == 0 && at < spoiled.length()) {
                 spoiled.deleteCharAt(at);
             } else if (kind == 1) {
                 spoiled.setLength(at);
             } else {
-                spoiled.insert(at, " \n;()a7#\0\t".charAt(DICE.nextInt(10)));
+                spoiled.insert(at, " \n;()a7#\0\t".charAt(dice(10)));
             }
         }
         return spoiled.length() > 600 ? spoiled.substring(0, 600) : spoiled.toString();
@@ -236,41 +259,33 @@ public final class RandomRunsTest {
 
     // ---- comparing
 
-    private static void compareAll() {
-        for (String query : PLAIN) {
-            both(query);
-        }
-        for (int n = -1; n <= plain.valleyCount(); n++) {
-            all(OF_VALLEY, n);
-            both("valleyByte", n, range(0, 8));
-            both("neededLoudness", n, range(1, 4));
-        }
-        for (int n = -1; n <= plain.customerCount(); n++) {
-            all(OF_CUSTOMER, n);
-            both("bestOffer", n, range(1, 4));
-            both("refusal", n, valley(), range(1, 4));
-        }
-        for (int n = -1; n <= plain.shoutCount(); n++) {
-            all(OF_SHOUT, n);
-        }
-        both("earnedAfter", range(0, 240));
-        both("earnedAfter", range(0, 30));
-        both("printReceipt", shout());
-        for (int i = -1; i < 28; i++) {
-            both("outputByte", i);
+    private static void query() {
+        switch (dice(16)) {
+            case 0, 1, 2 -> both(oneOf(PLAIN));
+            case 3, 4 -> both(oneOf(OF_VALLEY), valley());
+            case 5, 6 -> both(oneOf(OF_CUSTOMER), customer());
+            case 7, 8, 9 -> both(oneOf(OF_SHOUT), shout());
+            case 10 -> both("valleyByte", valley(), range(0, 8));
+            case 11 -> both("neededLoudness", valley(), range(1, 4));
+            case 12 -> both("bestOffer", customer(), range(1, 4));
+            case 13 -> both("refusal", customer(), valley(), range(1, 4));
+            case 14 -> both("earnedAfter", dice(2) == 0 ? range(0, 30) : range(0, 240));
+            default -> receipt();
         }
     }
 
-    private static void all(String[] queries, int number) {
-        for (String query : queries) {
-            both(query, number);
+    private static void receipt() {
+        both("printReceipt", shout());
+        for (int i = dice(6); i > 0; i--) {
+            both("outputByte", range(0, 27));
         }
     }
 
     private static void both(String name, int... numbers) {
-        if (failed) {
+        if (failed || calls == MOST_CALLS) {
             return;
         }
+        calls++;
         String got = answer(market, name, numbers);
         String want = answer(plain, name, numbers);
         boolean changes = !Arrays.asList(PLAIN).contains(name);

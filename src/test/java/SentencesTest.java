@@ -7,21 +7,21 @@ import java.util.List;
 import java.util.regex.Matcher;
 import java.util.regex.Pattern;
 
-/** The sentences that the tests quote stand in the document, word for word, in the section or promise they name. */
+/** The tests quote each sentence of the document, word for word, in the section or promise that they name. */
 public final class SentencesTest {
     private static final Path DOCUMENT = Path.of("../shared/DOC.md");
     private static final Path TESTS = Path.of("src/test/java");
     private static final Pattern QUOTE = Pattern.compile("Check\\.(terms|promise)\\((\\d+), \"((?:[^\"\\\\]|\\\\.)*)\"");
+    private static final String HEADINGS_OF_CALLS = " Ahead of the calls [^.]* the interface says: ---- "
+            + "(input|valleys|customers|shouts|explanations|checks and measures|undo, output, saved state)\\.";
     private static final int PROMISES = 65;
     private static final int SECTIONS = 8;
 
     public static void main(String[] args) throws IOException {
         List<String> sections = parts("\n\\d+\\. [A-Z][a-z ]+\\.\n|\n## Promise 1:", SECTIONS);
         List<String> promises = parts("\n## Promise \\d+:", PROMISES);
-        List<List<String>> quotes = new ArrayList<>();
-        for (int promise = 0; promise <= PROMISES; promise++) {
-            quotes.add(new ArrayList<>());
-        }
+        List<List<String>> quotesOfSections = emptyLists(SECTIONS);
+        List<List<String>> quotesOfPromises = emptyLists(PROMISES);
         try (DirectoryStream<Path> files = Files.newDirectoryStream(TESTS, "*Test.java")) {
             for (Path file : files) {
                 String code = Files.readString(file).replaceAll("\"\\s*\\+ \"", "");
@@ -33,25 +33,37 @@ public final class SentencesTest {
                     if (!(isPromise ? promises : sections).get(number).contains(words)) {
                         Check.fail(file + " quotes what the document does not say: " + matcher.group());
                     }
-                    quotes.get(isPromise ? number : 0).add(words);
+                    (isPromise ? quotesOfPromises : quotesOfSections).get(number).add(words);
                 }
             }
         }
+        for (int section = 1; section <= SECTIONS; section++) {
+            sentences("section " + section, sections.get(section), quotesOfSections.get(section));
+        }
         for (int promise = 1; promise <= PROMISES; promise++) {
-            refusedCalls(promise, promises.get(promise), quotes.get(promise));
+            sentences("promise " + promise, promises.get(promise), quotesOfPromises.get(promise));
         }
         Check.end();
     }
 
-    /** Each sentence of a promise on what it throws is quoted at least in part. */
-    private static void refusedCalls(int promise, String text, List<String> quotes) {
-        String[] sentences = text.replaceFirst("## Not promised.*", "").split("(?= Throws `)");
-        for (int i = 1; i < sentences.length; i++) {
-            String sentence = sentences[i];
-            if (quotes.stream().noneMatch(words -> sentence.contains(words))) {
-                Check.fail("no test of promise " + promise + " quotes:" + sentence);
+    /** Each sentence is quoted at least in part; headings and the signature in front of a promise need not be. */
+    private static void sentences(String name, String text, List<String> quotes) {
+        String plain = text.replaceFirst("^[\\w ]+ `[^`]*`: ", "").replaceFirst("## Not promised.*", "")
+                .replaceAll(HEADINGS_OF_CALLS, "");
+        for (String sentence : plain.split("(?<=\\.) (?=[A-Z\"])| (?=Throws `)| (?=- `)|(?<=```) (?=\")")) {
+            String words = sentence.strip();
+            if (quotes.stream().noneMatch(quote -> words.contains(quote) || quote.contains(words))) {
+                Check.fail("no test of " + name + " quotes: " + words);
             }
         }
+    }
+
+    private static List<List<String>> emptyLists(int last) {
+        List<List<String>> lists = new ArrayList<>();
+        for (int i = 0; i <= last; i++) {
+            lists.add(new ArrayList<>());
+        }
+        return lists;
     }
 
     /** The document cut at headings; part 0 is what stands before the first one, the last promise ends the parts. */
