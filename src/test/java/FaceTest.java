@@ -1,10 +1,17 @@
+import java.io.IOException;
 import java.lang.reflect.Constructor;
 import java.lang.reflect.Field;
 import java.lang.reflect.Member;
 import java.lang.reflect.Method;
 import java.lang.reflect.Modifier;
+import java.nio.file.Files;
+import java.nio.file.Path;
+import java.util.ArrayList;
+import java.util.List;
 import java.util.Set;
 import java.util.TreeSet;
+import java.util.regex.Matcher;
+import java.util.regex.Pattern;
 
 /** The public face: its constant, constructor, methods and the order of their exceptions; promise 1. */
 public final class FaceTest {
@@ -76,11 +83,31 @@ public final class FaceTest {
         "int restoreState 0 state"
     };
 
-    public static void main(String[] args) throws ReflectiveOperationException {
+    private static final Path DOCUMENT = Path.of("../shared/DOC.md");
+    private static final Pattern METHOD = Pattern.compile(
+            "(?m)^    public (int|boolean|double|float) (\\w+)\\(([^)]*)\\)(?: throws ([\\w, ]+))?;$");
+
+    public static void main(String[] args) throws ReflectiveOperationException, IOException {
+        methodsOfTheDocument();
         members();
         noOtherMembers();
         newObject();
         Check.end();
+    }
+
+    /** The face as the document writes it has the methods that are written above, in the same order. */
+    private static void methodsOfTheDocument() throws IOException {
+        List<String> methods = new ArrayList<>();
+        Matcher method = METHOD.matcher(Files.readString(DOCUMENT));
+        while (method.find()) {
+            int arguments = method.group(3).isEmpty() ? 0 : method.group(3).split(",").length;
+            Check.due("int arguments of " + method.group(), method.group(3).split("int ", -1).length - 1, arguments);
+            String exceptions = method.group(4) == null ? "" : " " + method.group(4);
+            methods.add(method.group(1) + " " + method.group(2) + " " + arguments
+                    + exceptions.replace(",", "").replace("IndexOutOfBoundsException", "index")
+                            .replace("IllegalArgumentException", "argument").replace("IllegalStateException", "state"));
+        }
+        Check.due("the methods of the document", methods.toString(), List.of(METHODS).toString());
     }
 
     private static void members() throws ReflectiveOperationException {
