@@ -452,8 +452,8 @@ public final class BoundsOfDescriptionsTest {
     }
 
     private static void whatStatementsDo() {
-        Check.terms(6, "\"valley\" adds a valley with a width, a number of walls and a price. \"customer\" adds a customer "
-                + "with a patience and money. \"shout\" sells a shout with a loudness and an order.");
+        Check.terms(6, "\"valley\" adds a valley with a width, a number of walls and a price. \"customer\" adds a "
+                + "customer with a patience and money. \"shout\" sells a shout with a loudness and an order.");
         EchoMarket x = Check.described("market;valley a 2 3 4;valley b 5 1 7;customer a 8 90;customer c 9 10;"
                 + "shout c b 5 1;shout a a 6 3;");
         Check.due("the first valley", x.width(0) * 100 + x.walls(0) * 10 + x.price(0), 234);
@@ -466,13 +466,15 @@ public final class BoundsOfDescriptionsTest {
         x.pass(6);
         Check.due("the loudness of the first shout", x.receipt(0), 7);
         Check.due("the loudness of the second shout", x.receipt(1), 8);
-        Check.terms(6, "\"fog\" and \"price\" set the fog and the price of a valley, \"well\" sets the depth of the well");
+        Check.terms(6, "\"fog\" and \"price\" set the fog and the price of a valley, \"well\" sets the depth of the "
+                + "well");
         x = Check.described("market;valley a 2 3 4;valley b 5 1 7;fog b 8;price a 9;well 3;");
         Check.due("fog", x.neededLoudness(0, 1) * 100 + x.neededLoudness(1, 1), 311);
         Check.due("price", x.price(0) * 10 + x.price(1), 97);
         Check.due("well", x.wellDepth(), 3);
         Check.terms(6, "and \"fake\" fakes the next echo of the shout with that number");
-        x = Check.described("market;valley a 2 3 4;customer c 9 90;customer d 9 90;shout c a 1 1;shout d a 1 1;fake 1;");
+        x = Check.described("market;valley a 2 3 4;customer c 9 90;customer d 9 90;shout c a 1 1;shout d a 1 1;"
+                + "fake 1;");
         Check.due("returns", x.returns(0) * 10 + x.returns(1), 1);
     }
 

@@ -11,7 +11,8 @@ import java.util.regex.Pattern;
 public final class SentencesTest {
     private static final Path DOCUMENT = Path.of("../shared/DOC.md");
     private static final Path TESTS = Path.of("src/test/java");
-    private static final Pattern QUOTE = Pattern.compile("Check\\.(terms|promise)\\((\\d+), \"((?:[^\"\\\\]|\\\\.)*)\"");
+    private static final Pattern QUOTE =
+            Pattern.compile("Check\\.(terms|promise)\\((\\d+), \"((?:[^\"\\\\]|\\\\.)*)\"");
     private static final String HEADINGS_OF_CALLS = " Ahead of the calls [^.]* the interface says: ---- "
             + "(input|valleys|customers|shouts|explanations|checks and measures|undo, output, saved state)\\.";
     private static final int PROMISES = 65;
@@ -24,17 +25,8 @@ public final class SentencesTest {
         List<List<String>> quotesOfPromises = emptyLists(PROMISES);
         try (DirectoryStream<Path> files = Files.newDirectoryStream(TESTS, "*Test.java")) {
             for (Path file : files) {
-                String code = Files.readString(file).replaceAll("\"\\s*\\+ \"", "");
-                Matcher matcher = QUOTE.matcher(code);
-                while (matcher.find()) {
-                    int number = Integer.parseInt(matcher.group(2));
-                    boolean isPromise = matcher.group(1).equals("promise");
-                    String words = matcher.group(3).replace("\\\"", "\"").replaceAll("\\s+", " ");
-                    if (!(isPromise ? promises : sections).get(number).contains(words)) {
-                        Check.fail(file + " quotes what the document does not say: " + matcher.group());
-                    }
-                    (isPromise ? quotesOfPromises : quotesOfSections).get(number).add(words);
-                }
+                quotes(file, "terms", sections, quotesOfSections);
+                quotes(file, "promise", promises, quotesOfPromises);
             }
         }
         for (int section = 1; section <= SECTIONS; section++) {
@@ -44,6 +36,23 @@ public final class SentencesTest {
             sentences("promise " + promise, promises.get(promise), quotesOfPromises.get(promise));
         }
         Check.end();
+    }
+
+    /** Collects what a test quotes of the sections or of the promises, which has to stand there. */
+    private static void quotes(Path file, String kind, List<String> parts, List<List<String>> quotes)
+            throws IOException {
+        String code = Files.readString(file).replaceAll("\"\\s*\\+ \"", "");
+        Matcher matcher = QUOTE.matcher(code);
+        while (matcher.find()) {
+            if (matcher.group(1).equals(kind)) {
+                int number = Integer.parseInt(matcher.group(2));
+                String words = matcher.group(3).replace("\\\"", "\"").replaceAll("\\s+", " ");
+                if (!parts.get(number).contains(words)) {
+                    Check.fail(file + " quotes what the document does not say: " + matcher.group());
+                }
+                quotes.get(number).add(words);
+            }
+        }
     }
 
     /** Each sentence is quoted at least in part; headings and the signature in front of a promise need not be. */
